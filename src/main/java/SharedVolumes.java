@@ -290,6 +290,7 @@ public final class SharedVolumes {
         return givenUp ? usedSlots() - 1 : usedSlots();
     }
 
+    // The other is the block of MAP_BLOCK, or the volume that CLONE_VOLUME takes its maps from.
     // No step looks whether the power is still there: a disk without power takes no writes.
     private int change(int kind, int vol, int other, int slot) {
         disk.write(intentStart, vol);

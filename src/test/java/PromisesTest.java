@@ -180,14 +180,19 @@ public final class PromisesTest {
         due("recover()", x.recover(), 0);
         due("writes()", x.writes(), 18);
         dueSlots(x, 1, NOTMAPPED, NOTMAPPED);
+        CHECK.at("2, format forgets an intent that holds");
         put(x, 0, 0, 7);
-        put(x, 0, 1, 8);
-        x.crashAfter(1);
-        due("trim(0, 0)", x.trim(0, 0), DOWN);
+        x.crashAfter(5);
+        due("cloneVol(0, 1)", x.cloneVol(0, 1), DOWN);
+        due("format()", x.format(), 0);
+        stage(x, 8);
+        x.crashAfter(2);
+        due("writeBlock(0, 1)", x.writeBlock(0, 1), DOWN);
         due("recover()", x.recover(), 0);
-        due("writes()", x.writes(), 32);
-        dueSlots(x, 0, 0, 1);
+        due("writes()", x.writes(), 30);
+        dueSlots(x, 0, NOTMAPPED, NOTMAPPED);
         dueSlots(x, 1, NOTMAPPED, NOTMAPPED);
+        dueSlotWords(x, 0, 8);
     }
 
     private static void stageWord() {
