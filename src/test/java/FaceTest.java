@@ -30,22 +30,37 @@ public final class FaceTest {
         "public int SharedVolumes.recover()",
         "public int SharedVolumes.writes()"));
 
+    private static final Check CHECK = new Check();
+
     public static void main(String[] args) {
-        Check check = new Check();
-        check.at("the face");
+        CHECK.sentence("The public face: 'public final class SharedVolumes'", FaceTest::classIsPublicAndFinal);
+        CHECK.sentence("The public face: each member", FaceTest::hasEachMember);
+        CHECK.sentence("LANGUAGE.md, rule 1: 'no other .. member'", FaceTest::hasNoOtherMember);
+        CHECK.sentence("LANGUAGE.md, rule 1: 'No private method bears the name ..'", FaceTest::privateNamesAreOthers);
+        CHECK.sentence("Terms: 'BADARG = -1'", () -> CHECK.due("BADARG", SharedVolumes.BADARG, -1));
+        CHECK.sentence("Terms: 'NOROOM = -2'", () -> CHECK.due("NOROOM", SharedVolumes.NOROOM, -2));
+        CHECK.sentence("Terms: 'NOTMAPPED = -3'", () -> CHECK.due("NOTMAPPED", SharedVolumes.NOTMAPPED, -3));
+        CHECK.sentence("Terms: 'DOWN = -4'", () -> CHECK.due("DOWN", SharedVolumes.DOWN, -4));
+        CHECK.end();
+    }
+
+    private static void classIsPublicAndFinal() {
+        int modifiers = SharedVolumes.class.getModifiers();
+        CHECK.due("public class", Modifier.isPublic(modifiers), true);
+        CHECK.due("final class", Modifier.isFinal(modifiers), true);
+    }
+
+    private static void hasEachMember() {
         Set<String> seen = visibleMembers();
         for (String member : FACE) {
-            check.due("has " + member, seen.contains(member), true);
+            CHECK.due("has " + member, seen.contains(member), true);
         }
-        for (String member : seen) {
-            check.due("may have " + member, FACE.contains(member), true);
+    }
+
+    private static void hasNoOtherMember() {
+        for (String member : visibleMembers()) {
+            CHECK.due("may have " + member, FACE.contains(member), true);
         }
-        int modifiers = SharedVolumes.class.getModifiers();
-        check.due("public class", Modifier.isPublic(modifiers), true);
-        check.due("final class", Modifier.isFinal(modifiers), true);
-        checkPrivateNames(check);
-        checkConstants(check);
-        check.end();
     }
 
     private static Set<String> visibleMembers() {
@@ -68,20 +83,13 @@ public final class FaceTest {
         return seen;
     }
 
-    private static void checkPrivateNames(Check check) {
+    private static void privateNamesAreOthers() {
         for (Method method : SharedVolumes.class.getDeclaredMethods()) {
             if (Modifier.isPrivate(method.getModifiers())) {
                 String member = "SharedVolumes." + method.getName() + "(";
                 boolean taken = FACE.stream().anyMatch(face -> face.contains(member));
-                check.due("private " + method.getName() + " bears a public name", taken, false);
+                CHECK.due("private " + method.getName() + " bears a public name", taken, false);
             }
         }
-    }
-
-    private static void checkConstants(Check check) {
-        check.due("BADARG", SharedVolumes.BADARG, -1);
-        check.due("NOROOM", SharedVolumes.NOROOM, -2);
-        check.due("NOTMAPPED", SharedVolumes.NOTMAPPED, -3);
-        check.due("DOWN", SharedVolumes.DOWN, -4);
     }
 }

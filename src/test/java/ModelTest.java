@@ -14,10 +14,14 @@ public final class ModelTest {
 
     public static void main(String[] args) {
         Check check = new Check();
+        check.sentence("all promises together", () -> playAll(check));
+        check.end();
+    }
+
+    private static void playAll(Check check) {
         for (int seed = 1; seed <= RUNS && check.allRight(); seed++) {
             new Run(check, seed).play();
         }
-        check.end();
     }
 
     private static final class Model {
