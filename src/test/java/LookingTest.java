@@ -57,13 +57,16 @@ public final class LookingTest extends Sentences {
         b.dueContents(0, 0, 0, 0);
     }
 
+    // All slots have words that are numbers of slots, so that a cell read by mistake looks like a map.
     private static Bench allMapped() {
-        Bench b = bench(2, 12, 2, 3);
+        Bench b = bench(2, 6, 2, 3);
         for (int vol = 0; vol < 2; vol++) {
             for (int lb = 0; lb < 3; lb++) {
-                b.put(vol, lb, 10 * vol + lb + 1, 7);
+                b.put(vol, lb, 3 * vol + lb + 1, 1);
             }
         }
+        b.put(1, 2, 2, 2);
+        b.due(6).slotOf(1, 2);
         return b;
     }
 

@@ -186,7 +186,9 @@ public final class NewAndFormatTest extends Sentences {
         }
         Bench b = bench(1, 1, 1, 1);
         b.put(0, 0, 5);
-        b.due(0).dropVol(0);
+        for (int i = 0; i < 300; i++) {
+            b.due(0).dropVol(0);
+        }
         b.dueDown(false);
         for (int i = 0; i < 30; i++) {
             b.crashAfter(1);

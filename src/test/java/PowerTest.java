@@ -297,25 +297,22 @@ public final class PowerTest extends Sentences {
         }
     }
 
+    // A second loss, before another intent holds, shows whether the first one was taken back.
     private static void recoverTakesBack() {
         for (Change change : Change.values()) {
-            Bench b = change.prepared(3);
-            b.crashAfter(change.wordWrites() + 5);
-            change.due(b, DOWN);
-            b.due(0).recover();
-            b.put(1, 0, 31, 32);
-            b.put(1, 2, 31, 32);
-            int before = b.writesNow();
-            b.due(0).recover();
             for (int n = 1; n <= 4; n++) {
+                Bench b = change.prepared(3);
+                b.crashAfter(change.wordWrites() + 5);
+                change.due(b, DOWN);
+                b.due(0).recover();
+                int before = b.writesNow();
                 b.crashAfter(n);
                 b.due(DOWN).trim(0, 0);
                 b.due(0).recover();
+                b.due(before + n - 1).writes();
+                change.dueDone(b);
+                b.dueSlots(0, 0, NOTMAPPED, 1);
             }
-            b.due(before + 6).writes();
-            b.dueContents(1, 0, 31, 32);
-            b.dueContents(1, 2, 31, 32);
-            b.due(0).slotOf(0, 0);
         }
     }
 

@@ -146,6 +146,7 @@ public final class TermsTest extends Sentences {
         b.put(0, 1, 3, 2, 1);
         b.put(1, 1, 1, 2, 3);
         b.put(0, 0, 4, 5, 6);
+        b.stage(7, 8, 9);
         b.dueSlots(0, 2, 1);
         b.dueSlots(1, NOTMAPPED, 0);
         b.dueContents(0, 0, 4, 5, 6);
@@ -195,6 +196,12 @@ public final class TermsTest extends Sentences {
         }
         b.due(3).chunksUsed();
         b.due(8).refsOf(0, 0);
+        Bench last = bench(1, 1, 2, 1);
+        last.put(0, 0, 5);
+        last.put(0, 0, 6);
+        last.put(1, 0, 6);
+        last.due(1).slotOf(0, 0);
+        last.due(1).slotOf(1, 0);
     }
 
     private static void oneOtherWordIsOtherContents() {
@@ -210,6 +217,12 @@ public final class TermsTest extends Sentences {
                 b.due(3).chunksUsed();
                 b.due(1).refsOf(0, 1);
             }
+        }
+        Bench order = bench(4, 6, 1, 6);
+        int[][] orders = {{1, 2, 3, 4}, {2, 1, 3, 4}, {1, 3, 2, 4}, {1, 2, 4, 3}, {4, 2, 3, 1}, {4, 3, 2, 1}};
+        for (int lb = 0; lb < 6; lb++) {
+            order.put(0, lb, orders[lb]);
+            order.due(lb).slotOf(0, lb);
         }
     }
 

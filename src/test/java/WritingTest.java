@@ -232,6 +232,13 @@ public final class WritingTest extends Sentences {
         b.due(5).chunksUsed();
         b.dueSlotWords(0, 0, 9);
         b.due(48 + 36 + 12).writes();
+        Bench last = bench(1, 2, 1, 3);
+        last.put(0, 0, 5);
+        last.put(0, 1, 6);
+        last.put(0, 1, 7);
+        last.put(0, 2, 7);
+        last.dueSlots(0, 0, 2, 2);
+        last.due(27).writes();
     }
 
     private static void unusedSlotIsNotShared() {
