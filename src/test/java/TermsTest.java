@@ -45,6 +45,10 @@ public final class TermsTest extends Sentences {
         CHECK.sentence("Terms: 'DOWN (readWord too)'", TermsTest::downReadWord);
         CHECK.sentence("Terms: '.. and change nothing'", TermsTest::downChangesNothing);
         CHECK.sentence("Terms: 'A call that answers another code changes nothing'", TermsTest::refusedCallsChangeNothing);
+        CHECK.sentence("Terms: 'BADARG = -1: A number is out of its range'", TermsTest::badargOutOfRange);
+        CHECK.sentence("Terms: 'NOROOM = -2: .. more different contents than C'", TermsTest::noroomAboveC);
+        CHECK.sentence("Terms: 'NOTMAPPED = -3: The block is unmapped'", TermsTest::notmappedWhenUnmapped);
+        CHECK.sentence("Terms: 'DOWN = -4: The power is down'", TermsTest::downWithoutPower);
         CHECK.end();
     }
 
@@ -781,5 +785,64 @@ public final class TermsTest extends Sentences {
         b.due(writes + 8).writes();
         b.due(0).recover();
         b.due(writes + 8).writes();
+    }
+
+    // These four take the class's own constants, so that what they are called stands for what they tell.
+    private static void badargOutOfRange() {
+        for (int number = -1; number <= 2; number++) {
+            int due = number == 0 || number == 1 ? 0 : SharedVolumes.BADARG;
+            Bench b = bench(2, 2, 2, 2);
+            b.put(0, 0, 1, 2);
+            b.put(0, 1, 1, 2);
+            b.due(0).cloneVol(0, 1);
+            b.due(due).slotOf(number, 1);
+            b.due(due).slotOf(1, number);
+            b.due(due).cloneVol(number, 0);
+            b.due(due).cloneVol(0, number);
+            b.due(due).trim(number, 0);
+            b.due(due).trim(1, number);
+            b.due(due).dropVol(number);
+            b.due(due).stageWord(number, 5);
+            b.due(due).writeBlock(number, 1);
+            b.due(due).writeBlock(1, number);
+        }
+        Bench codes = bench(1, 1, 1, 1);
+        codes.due(-1).dropVol(1);
+    }
+
+    private static void noroomAboveC() {
+        for (int c = 1; c <= 12; c++) {
+            Bench b = bench(1, c, 4, 6);
+            for (int at = 0; at < 24; at++) {
+                b.due(0).stageWord(0, at);
+                b.due(at < c ? 0 : SharedVolumes.NOROOM).writeBlock(at / 6, at % 6);
+            }
+            b.due(-2).writeBlock(3, 5);
+        }
+    }
+
+    private static void notmappedWhenUnmapped() {
+        Bench b = bench(1, 2, 2, 2);
+        b.put(1, 0, 5);
+        for (int at = 0; at < 4; at++) {
+            int due = at == 2 ? 0 : SharedVolumes.NOTMAPPED;
+            b.due(due).slotOf(at / 2, at % 2);
+            b.due(due).trim(at / 2, at % 2);
+        }
+        b.due(-3).slotOf(1, 0);
+        b.due(-3).trim(1, 0);
+    }
+
+    private static void downWithoutPower() {
+        Bench b = bench(1, 2, 1, 1);
+        b.crashAfter(1);
+        b.due(0).stageWord(0, 5);
+        b.due(0).chunksUsed();
+        b.due(SharedVolumes.DOWN).writeBlock(0, 0);
+        b.due(SharedVolumes.DOWN).stageWord(0, 5);
+        b.due(-4).chunksUsed();
+        b.due(0).recover();
+        b.due(0).chunksUsed();
+        b.due(0).writeBlock(0, 0);
     }
 }
